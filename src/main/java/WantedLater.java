@@ -19,9 +19,10 @@ public final class WantedLater {
     private static final int LACK_DAYS = 30;
     private static final int MOST_TRUE_DAYS = 30;
     private static final int MOST_ROSTER = 9;
-    private static final int MOST_ODDS_DAYS = 8;
+    private static final int MOST_CHOSEN_DAYS = 8;
     private static final int LOOK_DAYS = 6;
-    private static final int LIKELY = 10;
+    private static final int MOST_SOURCE = 100;
+    private static final int TENTHS = 10;
     private static final int MOST_SEED = 999999;
     private static final int COUNTED = 8;
 
@@ -229,7 +230,7 @@ public final class WantedLater {
     }
 
     public int off(int p, int n, int what) {
-        if (!isThere(p) || !isWithin(n, 1, MOST_ODDS_DAYS) || !isWithin(what, 0, 1)) {
+        if (!isThere(p) || !isWithin(n, 1, MOST_CHOSEN_DAYS) || !isWithin(what, 0, 1)) {
             return refuseBad();
         }
         if (bitOf(now.listed, p) == 0) {
@@ -307,7 +308,7 @@ public final class WantedLater {
     }
 
     public int odds(int p, int n, int c) {
-        if (!isThere(p) || !isWithin(n, 0, MOST_ODDS_DAYS) || !isWithin(c, 0, LIKELY)) {
+        if (!isThere(p) || !isWithin(n, 0, MOST_CHOSEN_DAYS) || !isWithin(c, 0, TENTHS)) {
             return refuseBad();
         }
         if (bitOf(now.listed, p) == 0) {
@@ -318,7 +319,7 @@ public final class WantedLater {
         for (int days = 0; days < 1 << n; days++) {
             long weight = 1;
             for (int i = 0; i < n; i++) {
-                weight *= bitOf(days, i) == 1 ? c : LIKELY - c;
+                weight *= bitOf(days, i) == 1 ? c : TENTHS - c;
             }
             all += weight;
             struck += isStruckBy(p, n, days) ? weight : 0;
@@ -560,7 +561,7 @@ public final class WantedLater {
 
     private int tempersOfSource() {
         int fit = 0;
-        for (int v = 0; v <= MOST_TEMPER + 1; v++) {
+        for (int v = 0; v <= MOST_SOURCE; v++) {
             int those = 0;
             for (int p = 0; p < now.people; p++) {
                 those = withBit(those, p, now.tempers[p] >= v ? 1 : 0);
@@ -603,33 +604,24 @@ public final class WantedLater {
 
     // ---- KINDS
 
-    private static int plainAct(int temper) {
-        return Math.min(temper / 6, MOST_ACT);
-    }
-
-    private static int saintAct(int temper) {
-        return Math.max(plainAct(temper) - 2, 0);
-    }
-
-    private static int turnsAct(boolean followed, int temper) {
-        int act = plainAct(temper);
-        return followed ? Math.min(act + 1, MOST_ACT) : act;
-    }
-
+    /** The ACT that one of a KIND does; kinds stand under PLAIN, SAINT and TURNS, so these come first. */
     private static int actOf(int kind, int day, boolean followed, int temper) {
+        int plain = Math.min(temper / 6, MOST_ACT);
+        int saint = Math.max(plain - 2, 0);
+        int turns = followed ? Math.min(plain + 1, MOST_ACT) : plain;
         switch (kind) {
             case 0:
-                return plainAct(temper);
+                return plain;
             case 1:
-                return saintAct(temper);
+                return saint;
             case 2:
-                return followed ? 0 : plainAct(temper);
+                return followed ? 0 : plain;
             case 3:
-                return turnsAct(followed, temper);
+                return turns;
             case 4:
-                return day % 3 == 0 ? Math.max(saintAct(temper), 1) : saintAct(temper);
+                return day % 3 == 0 ? Math.max(saint, 1) : saint;
             default:
-                return day % 2 == 0 ? 0 : turnsAct(followed, temper);
+                return day % 2 == 0 ? 0 : turns;
         }
     }
 
@@ -662,7 +654,7 @@ public final class WantedLater {
         }
 
         boolean doesIt() {
-            return actOfDay() >= counts;
+            return actOf(kind, day, followed, temper) >= counts;
         }
 
         /** A DAY goes by: whether he is STRUCK on it. */
@@ -910,7 +902,14 @@ public final class WantedLater {
 
         private boolean takesNumber(int least, int most) {
             takeToken();
-            return sort == NUMBER && isWithin(number, least, most);
+            if (sort != NUMBER) {
+                return false;
+            }
+            number = 0;
+            for (int i = start; i < behind; i++) {
+                number = 10 * number + (bytes[i] - '0');
+            }
+            return isWithin(number, least, most);
         }
 
         private boolean takesStop() {
@@ -937,40 +936,27 @@ public final class WantedLater {
                 start++;
             }
             behind = start;
-            if (start >= length) {
-                sort = END;
-            } else if (isLetter(bytes[start])) {
-                takeLetters();
-            } else if (isFigure(bytes[start])) {
-                takeFigures();
-            } else {
-                sort = bytes[start] == ';' ? STOP : FOREIGN;
+            sort = start < length ? sortOf(bytes[start]) : END;
+            if (sort == STOP || sort == FOREIGN) {
                 behind++;
+                return;
+            }
+            while (behind < length && sortOf(bytes[behind]) == sort) {
+                behind++;
+            }
+            if (sort == NUMBER && behind - start > MOST_FIGURES) {
+                sort = FOREIGN;
             }
         }
 
-        private void takeLetters() {
-            while (behind < length && isLetter(bytes[behind])) {
-                behind++;
+        private static int sortOf(int c) {
+            if (c >= 'a' && c <= 'z') {
+                return WORD;
             }
-            sort = WORD;
-        }
-
-        private void takeFigures() {
-            number = 0;
-            while (behind < length && isFigure(bytes[behind])) {
-                number = 10 * number + (bytes[behind] - '0');
-                behind++;
+            if (c >= '0' && c <= '9') {
+                return NUMBER;
             }
-            sort = behind - start <= MOST_FIGURES ? NUMBER : FOREIGN;
-        }
-
-        private static boolean isLetter(int c) {
-            return isWithin(c, 'a', 'z');
-        }
-
-        private static boolean isFigure(int c) {
-            return isWithin(c, '0', '9');
+            return c == ';' ? STOP : FOREIGN;
         }
     }
 }

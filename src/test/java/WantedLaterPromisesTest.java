@@ -219,17 +219,12 @@ public final class WantedLaterPromisesTest {
 
     private static void readFaults() {
         promise = "6 read, FAULT";
-        WantedLater x = townOf("town 2; one 5 9; list 0; follow 0;");
-        x.day(2);
-        x.note(0, 0, 0, 0, 0);
-        x.clear();
-        long digest = x.digest();
         String[] texts = {
             "", "   ", "town", "town ", "town 3", "town 3;one", "town 3;one 0", "town 3;one 0 5", "town 3;one 0 5;list",
-            "^one 0 5;", "^;", "^5;", "^towns 3;", "^tow 3;", " ^Town 3;", "town ^0;", "town ^6;", "town ^;", "town ^x;",
+            "^one 0 5;", "^;", "^5;", "^towns 3;", "^townz 3;", "^atown 3;", "^towna 3;", "^tow 3;", " ^Town 3;", "town ^0;", "town ^6;", "town ^;", "town ^x;",
             "town ^001;", "town ^-1;", "town 3^one 0 5;", "town 3 ^3;", "town 3;^;", "town 3;^town 3;", "town 3;^7;",
             "town 3;^on", "town 3;^oneone 0 5;", "town 3;one ^6 0;", "town 3;one 0 ^31;", "town 3;one 0^;",
-            "town 3;one 0 ^123;", "town 3;one ^012 5;", "town 3;one 0 5 ^0;", "town 3;one ^05;".replace("05", "06"),
+            "town 3;one 0 ^123;", "town 3;one ^012 5;", "town 3;one 0 5 ^0;", "town 3;one ^06;",
             "town 3;list ^0;", "town 3;follow ^0;", "town 3;one 0 5;list ^1;", "town 3;one 0 5;follow ^1;",
             "town 3;one 0 5;list 0 ^0;", "town 3;one 0 5;list ^follow 0;", "town 3;one 0 5;^lists 0;",
             "town 3;one 0 5;^\t", "town 3^,", "town 3;one 0 5;list 0;follow 0;^!",
@@ -239,12 +234,17 @@ public final class WantedLaterPromisesTest {
         for (String marked : texts) {
             String text = marked.replace("^", "");
             int fault = marked.indexOf('^') < 0 ? text.length() : marked.indexOf('^');
+            WantedLater x = townOf("town 2; one 5 9; list 0; follow 0;");
+            x.day(2);
+            x.note(0, 0, 0, 0, 0);
+            x.clear();
+            long digest = x.digest();
             due("read of '" + text + "'", Due.read(x, text), -10 - fault);
             x.clear();
             due("all stays behind '" + text + "'", x.digest(), digest);
+            due("what may be undone stays", x.undo(), 1);
+            due("no STATUS", x.status(0) + x.status(1) + x.status(2), 0);
         }
-        due("what may be undone stays", x.count(6), 2);
-        due("no STATUS", x.status(0) + x.status(1) + x.status(2), 0);
     }
 
     private static void list() {
@@ -361,6 +361,11 @@ public final class WantedLaterPromisesTest {
         due("FOLLOWED", x.count(3), 1);
         due("STRUCK", x.count(4), 1);
         due("TEMPER", x.of(0, 1), 19);
+        x.follow(0, 0);
+        x.day(1);
+        x.undo();
+        due("STRUCK, as ahead of it", x.count(4), 1);
+        due("undo() of follow", x.undo(), 1);
         due("undo() of the other", x.undo(), 0);
         due("as at first", x.digest(), first);
         x.list(0, 0);
@@ -588,6 +593,8 @@ public final class WantedLaterPromisesTest {
         due("of another there are none", x.is(1), 63);
         x.note(0, 3, 0, 5, 1);
         due("KISSER", x.is(0), 16);
+        x.note(0, 1, 0, 12, 0);
+        due("KISSER, also on DAY 1", x.is(0), 16);
         x.note(1, 4, 0, 20, 3);
         due("PLAIN, DENTIST, TURNS", x.is(1), 1 + 4 + 8);
         x.note(1, 5, 1, 20, 4);
@@ -688,13 +695,16 @@ public final class WantedLaterPromisesTest {
         due("SEED 0, one DAY", x.years(0, 1), 0);
         // SEED 1: 1103527590, by 65536: 16838, even; then left over 377401575, by 65536: 5758, even.
         due("SEED 1, one DAY", x.years(1, 1), 0);
-        int followed = 0;
-        long seed = 999999;
-        for (int p = 0; p < 2; p++) {
-            seed = (seed * 1103515245L + 12345L) & 0x7fffffffL;
-            followed += (int) (seed >> 16 & 1);
+        for (int seed = 0; seed <= 999999; seed += 4013) {
+            int left = seed;
+            int followed = 0;
+            for (int p = 0; p < 2; p++) {
+                left = left * 1103515245 + 12345 & 0x7fffffff;
+                followed += left >> 16 & 1;
+            }
+            due("SEED " + seed + ", one DAY", x.years(seed, 1), followed);
         }
-        due("SEED 999999, one DAY", x.years(999999, 1), followed);
+        due("SEED 999999", x.years(999999, 0), 0);
         due("both in 60 DAYS", x.years(0, 60), 2);
         due("nothing is changed", x.digest(), digest);
         WantedLater y = townOf("town 1; one 0 30; one 0 30;");

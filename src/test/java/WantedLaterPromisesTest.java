@@ -226,7 +226,7 @@ public final class WantedLaterPromisesTest {
             "town 3;^on", "town 3;^oneone 0 5;", "town 3;one ^6 0;", "town 3;one 0 ^31;", "town 3;one 0^;",
             "town 3;one 0 ^123;", "town 3;one ^012 5;", "town 3;one 0 5 ^0;", "town 3;one ^06;",
             "town 3;list ^0;", "town 3;follow ^0;", "town 3;one 0 5;list ^1;", "town 3;one 0 5;follow ^1;",
-            "town 3;one 0 5;list 0 ^0;", "town 3;one 0 5;list ^follow 0;", "town 3;one 0 5;^lists 0;",
+            "town 3;one 0 5;list 0 ^0;", "town 3;one 0 5;list ^follow 0;", "town 3;one 0 5;^lists 0;", "town 3;one 0 5;^mist 0;", "^down 3;",
             "town 3;one 0 5;^\t", "town 3^,", "town 3;one 0 5;list 0;follow 0;^!",
             "town 3;one 0 0;one 0 0;one 0 0;one 0 0;one 0 0;one 0 0;one 0 0;^one 9 99;",
             "town 3;one 0 0;one 0 0;one 0 0;one 0 0;one 0 0;one 0 0;one 0 0;^one",
@@ -361,11 +361,11 @@ public final class WantedLaterPromisesTest {
         due("FOLLOWED", x.count(3), 1);
         due("STRUCK", x.count(4), 1);
         due("TEMPER", x.of(0, 1), 19);
-        x.follow(0, 0);
-        x.day(1);
-        x.undo();
-        due("STRUCK, as ahead of it", x.count(4), 1);
-        due("undo() of follow", x.undo(), 1);
+        x.day(3);
+        due("undo()", x.undo(), 3);
+        due("STRUCK, as ahead of it", x.count(4), 2);
+        due("undo()", x.undo(), 2);
+        due("undo()", x.undo(), 1);
         due("undo() of the other", x.undo(), 0);
         due("as at first", x.digest(), first);
         x.list(0, 0);
@@ -534,6 +534,11 @@ public final class WantedLaterPromisesTest {
         y.day(1);
         due("a KISSER, on DAY 3", y.off(0, 3, 1), 4);
         due("in 2 there is none", y.off(0, 2, 1), WantedLater.NONE);
+        WantedLater z = townOf("town 1; one 4 18; list 0;");
+        z.day(1);
+        due("DAYS 1 and 2 would do", z.off(0, 2, 1), 3);
+        due("but DAY 3 alone is fewer", z.off(0, 3, 1), 4);
+        due("but DAY 3 alone is fewer", z.off(0, 3, 0), 1);
     }
 
     private static void rests() {

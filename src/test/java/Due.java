@@ -2,12 +2,18 @@
 final class Due {
     private int wrong;
     private int asked;
+    private String sentence = "";
+
+    /** The sentence of the document that the next answers are due by. */
+    void sentence(String words) {
+        sentence = words + ": ";
+    }
 
     void due(String call, long got, long want) {
         asked++;
         if (got != want) {
             wrong++;
-            System.out.println(call + " answered " + got + ", due is " + want);
+            System.out.println(sentence + call + " answered " + got + ", due is " + want);
         }
     }
 
@@ -16,19 +22,5 @@ final class Due {
         if (wrong != 0) {
             System.exit(1);
         }
-    }
-
-    /** Types a text behind THE TEXT. */
-    static void type(WantedLater x, String text) {
-        for (int i = 0; i < text.length(); i++) {
-            x.type(text.charAt(i));
-        }
-    }
-
-    /** What reading just this text answers. */
-    static int read(WantedLater x, String text) {
-        x.clear();
-        type(x, text);
-        return x.read();
     }
 }

@@ -1,4 +1,5 @@
 import java.lang.reflect.Method;
+import java.lang.reflect.Modifier;
 import java.util.Arrays;
 import java.util.HashMap;
 import java.util.Map;
@@ -25,7 +26,9 @@ public final class WantedLaterModelTest {
 
     public static void main(String[] args) throws Exception {
         for (Method m : WantedLater.class.getDeclaredMethods()) {
-            METHODS.put(m.getName(), m);
+            if (Modifier.isPublic(m.getModifiers())) {
+                METHODS.put(m.getName(), m);
+            }
         }
         for (int run = 0; run < RUNS; run++) {
             new WantedLaterModelTest(run).go();

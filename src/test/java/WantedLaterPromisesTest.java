@@ -50,7 +50,7 @@ public final class WantedLaterPromisesTest {
     /** A town by its text. */
     private static WantedLater townOf(String text) {
         WantedLater x = new WantedLater();
-        if (Due.read(x, text) < 0) {
+        if (Towns.read(x, text) < 0) {
             due("a town of the test, " + text, -1, 0);
         }
         return x;
@@ -178,28 +178,28 @@ public final class WantedLaterPromisesTest {
         due("count(0)", x.count(0), 1);
         due("count(1)", x.count(1), 2);
         due("read() of nothing", x.read(), -10);
-        Due.type(x, "town 1;");
+        Towns.type(x, "town 1;");
         due("typed anew", x.read(), 1);
     }
 
     private static void readWell() {
         promise = "6 read";
         WantedLater x = new WantedLater();
-        due("the town alone", Due.read(x, "town 3;"), 1);
-        due("blanks", Due.read(x, "  town   2  ;  one 3   07 ;list 0;follow  0;  "), 4);
+        due("the town alone", Towns.read(x, "town 3;"), 1);
+        due("blanks", Towns.read(x, "  town   2  ;  one 3   07 ;list 0;follow  0;  "), 4);
         due("readings()", x.readings(), 2 + 4);
         due("KIND", x.of(0, 0), 3);
         due("TEMPER", x.of(0, 1), 7);
         due("on THE LIST", x.of(0, 2), 1);
         due("FOLLOWED", x.of(0, 3), 1);
         due("when(0) by COUNTS 2", x.when(0), 1);
-        due("no blanks", Due.read(x, "town4;one0 30;list0;"), 3);
+        due("no blanks", Towns.read(x, "town4;one0 30;list0;"), 3);
         due("FOLLOWED", x.of(0, 3), 0);
-        due("two figures", Due.read(x, "town 05;one 00 00;list 00;list 0;"), 4);
-        due("seven", Due.read(x, "town 3;one 0 1;one 1 2;one 2 3;one 3 4;one 4 5;one 5 6;one 0 7;list 6;"), 9);
+        due("two figures", Towns.read(x, "town 05;one 00 00;list 00;list 0;"), 4);
+        due("seven", Towns.read(x, "town 3;one 0 1;one 1 2;one 2 3;one 3 4;one 4 5;one 5 6;one 0 7;list 6;"), 9);
         due("list 6", x.of(6, 2), 1);
         due("count(2)", x.count(2), 1);
-        due("a one behind a list", Due.read(x, "town 3;one 0 1;follow 0;one 1 2;follow 1;"), 5);
+        due("a one behind a list", Towns.read(x, "town 3;one 0 1;follow 0;one 1 2;follow 1;"), 5);
         due("count(3)", x.count(3), 2);
         x.list(0, 1);
         x.note(0, 0, 0, 0, 0);
@@ -239,7 +239,7 @@ public final class WantedLaterPromisesTest {
             x.note(0, 0, 0, 0, 0);
             x.clear();
             long digest = x.digest();
-            due("read of '" + text + "'", Due.read(x, text), -10 - fault);
+            due("read of '" + text + "'", Towns.read(x, text), -10 - fault);
             x.clear();
             due("all stays behind '" + text + "'", x.digest(), digest);
             due("what may be undone stays", x.undo(), 1);
